@@ -268,25 +268,17 @@ public final class FactFinder {
         return fact >> k * POINT_BITS & POINT_MASK;
     }
 
-    /** Numbers modulo P. */
-    private static final class Numbers {
-        static int reduce(long value) {
-            int rest = (int) (value % P);
-            return rest < 0 ? rest + P : rest;
-        }
-
-        /** One divided by value, which is not 0 modulo P: its power P - 2. */
-        static long invert(long value) {
-            long result = 1;
-            long power = reduce(value);
-            for (int exponent = P - 2; exponent > 0; exponent >>= 1) {
-                if ((exponent & 1) == 1) {
-                    result = result * power % P;
-                }
-                power = power * power % P;
+    /** One divided by value, which is not 0 modulo P: its power P - 2; less than 0 if value is. */
+    private static long invert(long value) {
+        long result = 1;
+        long power = value % P;
+        for (int exponent = P - 2; exponent > 0; exponent >>= 1) {
+            if ((exponent & 1) == 1) {
+                result = result * power % P;
             }
-            return result;
+            power = power * power % P;
         }
+        return result;
     }
 
     /** The steps of all points. */
@@ -382,8 +374,10 @@ public final class FactFinder {
         }
 
         private boolean found(long placeX, long placeY) {
-            foundX = Numbers.reduce(placeX);
-            foundY = Numbers.reduce(placeY);
+            int restX = (int) (placeX % P);
+            int restY = (int) (placeY % P);
+            foundX = restX < 0 ? restX + P : restX;
+            foundY = restY < 0 ? restY + P : restY;
             return true;
         }
 
@@ -409,7 +403,7 @@ public final class FactFinder {
                 return false;
             }
             long dot = (long) (placeX - x[b]) * (x[c] - x[b]) + (long) (placeY - y[b]) * (y[c] - y[b]);
-            return findAlong(b, c, dot % P * Numbers.invert(length) % P);
+            return findAlong(b, c, dot % P * invert(length) % P);
         }
 
         private boolean findMeet(int a, int b, int c, int d) {
@@ -417,7 +411,7 @@ public final class FactFinder {
             if (cross == 0) {
                 return false;
             }
-            return findAlong(a, b, cross(a, c, c, d) * Numbers.invert(cross) % P);
+            return findAlong(a, b, cross(a, c, c, d) * invert(cross) % P);
         }
 
         private boolean findCentre(int a, int b, int c) {
@@ -425,7 +419,7 @@ public final class FactFinder {
             if (area == 0) {
                 return false;
             }
-            long part = Numbers.invert(2 * area);
+            long part = invert(2 * area);
             long ab = length(a, b);
             long ac = length(a, c);
             long wayX = (ab * (y[c] - y[a]) - ac * (y[b] - y[a])) % P;
@@ -439,7 +433,7 @@ public final class FactFinder {
                 return false;
             }
             long dot = (x[b] - x[a] + t * (y[b] - y[a])) % P;
-            long part = dot * Numbers.invert(square) % P;
+            long part = dot * invert(square) % P;
             return found(x[b] - 2 * part, y[b] - 2 * part * t);
         }
 
@@ -448,7 +442,7 @@ public final class FactFinder {
             if (length == 0) {
                 return false;
             }
-            return findAlong(b, a, length(b, c) * Numbers.invert(length) % P);
+            return findAlong(b, a, length(b, c) * invert(length) % P);
         }
 
         /** ab x cd; it may be less than 0, but is 0 only if it is 0 modulo P. */
@@ -620,7 +614,7 @@ public final class FactFinder {
         private long divide(long value, long by) {
             if (by != divisor) {
                 divisor = by;
-                inverse = Numbers.invert(by);
+                inverse = invert(by);
             }
             return value * inverse % P;
         }
@@ -719,6 +713,9 @@ public final class FactFinder {
                         break;
                     case AREAS:
                         listAreas();
+                        break;
+                    case RATIO:
+                        listRatios();
                         break;
                     default:
                         listTwoPairs(kind);
@@ -885,24 +882,27 @@ public final class FactFinder {
                 for (int b = a + 1; b < points; b++) {
                     for (int c = a; c < points; c++) {
                         for (int d = c == a ? b + 1 : c + 1; d < points; d++) {
-                            considerTwoPairs(kind, a, b, c, d);
+                            if (kind != PARALLEL || areApartPairs(a, b, c, d)) {
+                                consider(kind, join(pack(a, b, c), d));
+                            }
                         }
                     }
                 }
             }
         }
 
-        private void considerTwoPairs(int kind, int a, int b, int c, int d) {
-            int fact = join(pack(a, b, c), d);
-            if (kind != RATIO) {
-                if (kind != PARALLEL || areApartPairs(a, b, c, d)) {
-                    consider(kind, fact);
+        private void listRatios() {
+            for (int a = 0; a < points; a++) {
+                for (int b = a + 1; b < points; b++) {
+                    for (int c = a; c < points; c++) {
+                        for (int d = c == a ? b + 1 : c + 1; d < points; d++) {
+                            int numbered = drawing.giveNumbers(join(pack(a, b, c), d));
+                            if (numbered != 0 && isApart(RATIO, numbered)) {
+                                lists[RATIO].add(numbered);
+                            }
+                        }
+                    }
                 }
-                return;
-            }
-            int numbered = drawing.giveNumbers(fact);
-            if (numbered != 0 && isApart(RATIO, fact)) {
-                lists[RATIO].add(numbered);
             }
         }
 
