@@ -526,7 +526,6 @@ public final class FactFinder {
 
         void begin(int seed, int figures) {
             size = figures;
-            standing = figures;
             for (int g = 0; g < size; g++) {
                 sheets[g].begin(seed + 1000 * g);
             }

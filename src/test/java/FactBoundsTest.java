@@ -22,6 +22,7 @@ public final class FactBoundsTest {
         ratios();
         factsBounds();
         factsMost();
+        factsOfFewFigures();
         toldApart();
         toldNoZero();
         toldOnePlaceInOneFigure();
@@ -285,6 +286,13 @@ public final class FactBoundsTest {
             holds(ruler(3), 1, MIDDLE, 1, 0, 2);
             holds(ruler(3), 0, MIDDLE, 0, 1, 2);
         });
+        c.test(10, "MIDDLE: x or y alone is not enough", () -> {
+            // With t = 0 the point 2 has the y of 1, and 4, turned by a quarter, the x of 3.
+            FactFinder x = Made.of(oddSeed(), 1, s(0), s(0), s(10, 0, 1), s(7, 1, 0), s(7, 2, 0), s(1, 1, 1),
+                    s(1, 3, 3));
+            holds(x, 0, MIDDLE, 5, 1, 2);
+            holds(x, 0, MIDDLE, 6, 3, 4);
+        });
         c.test(10, "AREAS: squared, so whichever way round", () -> {
             holds(square(1, 2), 1, AREAS, 0, 1, 2, 0, 1, 3);
             holds(square(1, 2), 1, AREAS, 0, 1, 2, 1, 2, 3);
@@ -475,6 +483,28 @@ public final class FactBoundsTest {
             FactFinder x = Made.of(8, 5, s(0), s(0), s(0), s(8, 1, 0, 2), s(8, 2, 0, 2), s(8, 3, 0, 2));
             c.is("AREAS", areasOfSixCorners(), x.facts(AREAS));
         });
+    }
+
+    private static void factsOfFewFigures() {
+        int[][] steps = {s(0), s(0), s(7, 1, 0), s(8, 1, 0, 2), s(1, 0, 3), s(1, 0, 0)};
+        c.test(11, "TOLD of one FIGURE as of five", () -> {
+            for (int kind = 0; kind < 9; kind++) {
+                tells(Made.of(7, 1, steps), kind, Made.told(Made.of(7, 5, steps), kind));
+            }
+        });
+        c.test(11, "TOLD of those that STAND alone: the first, the last of five", () -> {
+            // 2 is 0 in one figure alone; 3 FALLS in that one.
+            int[][] odd = {s(0), s(0), s(9, 0, 1), s(2, 1, 0, 2), s(7, 1, 0), s(8, 1, 0, 4)};
+            for (int kind = 0; kind < 9; kind++) {
+                String all = Made.told(Made.of(7, 5, odd), kind);
+                tells(Made.of(oddSeed(), 2, odd), kind, all);
+                tells(Made.of(oddSeed() - 1000, 2, odd), kind, all);
+                tells(Made.of(oddSeed() - 4000, 5, odd), kind, all);
+            }
+        });
+        c.test(11, "AREAS of the last of ten POINTS, when no three are in a LINE", () ->
+                tells(Made.of(1, 2, s(0), s(0), s(0), s(0), s(0), s(0), s(0), s(0), s(0), s(8, 7, 6, 8)), AREAS,
+                        "678679 678689 678789 679689 679789 689789"));
     }
 
     private static int areasOfSixCorners() {
@@ -728,6 +758,8 @@ public final class FactBoundsTest {
         c.test(12, "its NUMBERS in all FIGURES, though both lengths are 0 in the first", () -> {
             FactFinder x = Made.of(oddSeed(), 2, s(0), s(0), s(9, 0, 1), s(1, 0, 2));
             tells(x, RATIO, "020314 022314");
+            FactFinder y = Made.of(Made.seedOf(7, 0), 2, s(0), s(0), s(0), s(9, 1, 2), s(1, 1, 3));
+            tells(y, RATIO, "131414 133414");
         });
     }
 

@@ -54,19 +54,8 @@ public final class FactsTest {
                 x.holds(kind, r[0], r[1], r[2], r[3], r[4], r[5]));
     }
 
-    private static String list(FactFinder x, int kind) {
-        StringBuilder text = new StringBuilder();
-        for (int i = 0; i < x.facts(kind); i++) {
-            text.append(i == 0 ? "" : " ");
-            for (int k = 0; k < WIDTH[kind]; k++) {
-                text.append(x.fact(kind, i, k));
-            }
-        }
-        return text.toString();
-    }
-
     private static void told(FactFinder x, int kind, String all) {
-        String got = list(x, kind);
+        String got = Made.told(x, kind);
         due.isTrue("told of kind " + kind + ": " + got + ", due: " + all, got.equals(all));
     }
 
@@ -165,7 +154,8 @@ public final class FactsTest {
     }
 
     private static int ratioNumber(FactFinder x, int a, int b, int c, int d, int k) {
-        for (int i = 0; i < x.facts(8); i++) {
+        int size = x.facts(8);
+        for (int i = 0; i < size; i++) {
             if (x.fact(8, i, 0) == a && x.fact(8, i, 1) == b && x.fact(8, i, 2) == c && x.fact(8, i, 3) == d) {
                 return x.fact(8, i, k);
             }
@@ -174,26 +164,32 @@ public final class FactsTest {
     }
 
     private static void toldInATriangle() {
-        FactFinder x = triangle();
-        told(x, 0, "");
-        told(x, 1, "016 017 028 059 067 129 158 167 247 256 345");
-        told(x, 2, "0167 0189 0269 0439 0617 0689 0716 0789 0869 1268 1438 1689 1789 1968 2436 2736 2869"
+        told(triangle(), 0, "");
+        told(triangle(), 1, "016 017 028 059 067 129 158 167 247 256 345");
+        told(triangle(), 2, "0167 0189 0269 0439 0617 0689 0716 0789 0869 1268 1438 1689 1789 1968 2436 2736 2869"
                 + " 2968 3647 6789");
-        told(x, 3, "0124 0127 0136 0147 0214 0238 0412 0419 0429 0468 0624 0627 0636 0647 0724 0727 0736"
+        told(triangle(), 3, "0124 0127 0136 0147 0214 0238 0412 0419 0429 0468 0624 0627 0636 0647 0724 0727 0736"
                 + " 0747 0814 0838 1239 1428 1469 1624 1627 1636 1647 1724 1727 1736 1747 1939 2467 2489"
                 + " 2767 2789 2838 2939 3667 3689 3869 3968 4767 4789");
-        told(x, 4, "0313 0323 0616 0689 0828 0869 0878 1323 1689 1929 1968 1979 2869 2878 2968 2979 6879 6978");
-        told(x, 5, "0167 0368 1369 2389 6789");
-        told(x, 6, "601 802 912");
-        due.is("facts(7)", 121, x.facts(7));
-        due.isTrue("the first areas", list(x, 7).startsWith("015025 015125 018019 018026 018029 018126"));
-        told(x, 8, "010614 011614 018914 020814 022814 026914 027814 043914 050994 055914 095919 121914"
+        told(triangle(), 4, "0313 0323 0616 0689 0828 0869 0878 1323 1689 1929 1968 1979 2869 2878 2968 2979 6879 6978");
+        told(triangle(), 5, "0167 0368 1369 2389 6789");
+        told(triangle(), 8, "010614 011614 018914 020814 022814 026914 027814 043914 050994 055914 095919 121914"
                 + " 122914 126814 127914 143814 151894 155814 185819 243614 252694 255614 265619 343519"
                 + " 344549 354541");
+        due.is("facts(7)", 121, triangle().facts(7));
+        firstAreas(triangle(), "015025015125018019018026018029018126");
+        FactFinder x = triangle();
+        told(x, 6, "601 802 912");
         x.change(6, 0, 0, 0, 0, 0);
         told(x, 6, "802 912");
         x.clear();
         told(x, 6, "");
+    }
+
+    private static void firstAreas(FactFinder x, String points) {
+        for (int at = 0; at < points.length(); at++) {
+            due.is("fact(7, " + at / 6 + ", " + at % 6 + ")", points.charAt(at) - '0', x.fact(7, at / 6, at % 6));
+        }
     }
 
     private static void toldOfSamePoints() {

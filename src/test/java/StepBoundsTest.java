@@ -8,6 +8,7 @@ public final class StepBoundsTest {
     public static void main(String[] args) {
         newObject();
         clear();
+        toldAnew();
         stepNumbers();
         stepRefusals();
         changeAnswers();
@@ -22,6 +23,7 @@ public final class StepBoundsTest {
         placeBounds();
         placesDrawn();
         placesThatWrap();
+        placesOfOneTooFar();
         placesOfOnePoint();
         placesAtTheEdge();
         c.end(1, 9);
@@ -107,6 +109,56 @@ public final class StepBoundsTest {
             Made.step(x, 0);
             Made.step(x, 0);
             c.is("all", Made.view(Made.of(77, 5, s(0), s(0))), Made.view(x));
+        });
+    }
+
+    /** A square 0 to 3, its middle 4, 0 once more, and a point of the line of 0 and 1. */
+    private static int[][] square(int points) {
+        int[][] steps = {s(0), s(0), s(7, 1, 0), s(8, 1, 0, 2), s(1, 0, 3), s(1, 0, 0), s(9, 0, 1)};
+        return java.util.Arrays.copyOf(steps, points);
+    }
+
+    /** All has been told before: what is kept of it must not be told then. */
+    private static void toldAnew() {
+        c.test(2, "No POINTS any more: none of them is in what is told of fewer, made alike", () -> {
+            for (int points = 0; points < 7; points++) {
+                FactFinder x = Made.of(3, 2, square(7));
+                Made.view(x);
+                x.clear();
+                for (int[] step : square(points)) {
+                    Made.step(x, step);
+                }
+                c.is("all of " + points, Made.view(Made.of(3, 2, square(points))), Made.view(x));
+            }
+        });
+        c.test(3, "A POINT more: what is told is told anew", () -> {
+            for (int points = 0; points < 7; points++) {
+                FactFinder x = Made.of(3, 2, square(points));
+                Made.view(x);
+                Made.step(x, square(7)[points]);
+                c.is("all of " + (points + 1), Made.view(Made.of(3, 2, square(points + 1))), Made.view(x));
+            }
+        });
+        c.test(4, "A POINT'S STEP becomes another one: what is told is told anew", () -> {
+            for (int p = 0; p < 7; p++) {
+                FactFinder x = Made.of(3, 2, square(7));
+                Made.view(x);
+                Made.change(x, p, 0);
+                int[][] steps = square(7);
+                steps[p] = s(0);
+                c.is("all with " + p + " FREE", Made.view(Made.of(3, 2, steps)), Made.view(x));
+            }
+        });
+        c.test(5, "The SEED and how many FIGURES: what is told is told anew", () -> {
+            int seed = Made.seedOf(5, 0);
+            FactFinder x = Made.of(seed, 1, square(7));
+            Made.view(x);
+            x.draw(seed, 2);
+            c.is("all of two", Made.view(Made.of(seed, 2, square(7))), Made.view(x));
+            FactFinder y = Made.of(seed, 2, square(7));
+            Made.view(y);
+            y.draw(seed, 1);
+            c.is("all of one", Made.view(Made.of(seed, 1, square(7))), Made.view(y));
         });
     }
 
@@ -707,6 +759,34 @@ public final class StepBoundsTest {
                 }
             }
         });
+    }
+
+    /** A step of KIND 8 of FREE points that, before it wraps, is the number given. */
+    private static void shift(int number, int due) {
+        for (int seed = 1; seed <= 1000000; seed++) {
+            for (int axis = 0; axis < 2; axis++) {
+                int[] at = {Made.drawn(seed, 1 + axis), Made.drawn(seed, 3 + axis), Made.drawn(seed, 5 + axis)};
+                for (int way = 0; way < 9; way++) {
+                    int a = way / 3;
+                    int b = way % 3;
+                    int e = (way + 1) % 3;
+                    if (at[a] + at[e] - at[b] == number) {
+                        FactFinder x = Made.of(seed, 1, s(0), s(0), s(0), s(8, a, b, e));
+                        c.is("seed " + seed + ", axis " + axis, due, x.place(0, 3, axis));
+                        return;
+                    }
+                }
+            }
+        }
+        c.isTrue("there is a seed for " + number, false);
+    }
+
+    private static void placesOfOneTooFar() {
+        c.test(9, "NUMBERS are 0 .. P - 1: -1 is P - 1", () -> shift(-1, P - 1));
+        c.test(9, "NUMBERS are 0 .. P - 1: 0 is 0", () -> shift(0, 0));
+        c.test(9, "NUMBERS are 0 .. P - 1: P - 1 is P - 1", () -> shift(P - 1, P - 1));
+        c.test(9, "NUMBERS are 0 .. P - 1: P is 0", () -> shift(P, 0));
+        c.test(9, "NUMBERS are 0 .. P - 1: P + 1 is 1", () -> shift(P + 1, 1));
     }
 
     private static void one(String what, int least, int point, int[]... steps) {
