@@ -7,6 +7,7 @@ public final class StepBoundsTest {
 
     public static void main(String[] args) {
         newObject();
+        lastCall();
         clear();
         toldAnew();
         stepNumbers();
@@ -65,6 +66,28 @@ public final class StepBoundsTest {
             c.is("a second one", Made.view(new FactFinder()), Made.view(new FactFinder()));
             c.is("its points", 0, new FactFinder().count(0));
             c.is("the other one", before, Made.view(other));
+        });
+    }
+
+    private static void lastCall() {
+        c.test(1, "An object is used for at most 512 calls: the last one answers, too", () -> {
+            FactFinder x = Made.of(3, 2, square(7));
+            int calls = 8;
+            while (calls < 511) {
+                Made.change(x, 4, calls % 2 == 0 ? 0 : 1, 0, 3);
+                x.facts(calls % 9);
+                x.clear();
+                for (int[] step : square(7)) {
+                    Made.step(x, step);
+                }
+                calls += 10;
+                while (calls > 501 && calls < 511) {
+                    x.row(0);
+                    calls++;
+                }
+            }
+            c.is("the calls so far", 511, calls);
+            c.is("facts(5), call 512", 2, x.facts(5));
         });
     }
 
@@ -761,24 +784,24 @@ public final class StepBoundsTest {
         });
     }
 
-    /** A step of KIND 8 of FREE points that, before it wraps, is the number given. */
+    /** Steps of KIND 8 of FREE points that, before they wrap, are the number given: x, then y. */
     private static void shift(int number, int due) {
-        for (int seed = 1; seed <= 1000000; seed++) {
-            for (int axis = 0; axis < 2; axis++) {
-                int[] at = {Made.drawn(seed, 1 + axis), Made.drawn(seed, 3 + axis), Made.drawn(seed, 5 + axis)};
-                for (int way = 0; way < 9; way++) {
-                    int a = way / 3;
-                    int b = way % 3;
-                    int e = (way + 1) % 3;
-                    if (at[a] + at[e] - at[b] == number) {
-                        FactFinder x = Made.of(seed, 1, s(0), s(0), s(0), s(8, a, b, e));
-                        c.is("seed " + seed + ", axis " + axis, due, x.place(0, 3, axis));
-                        return;
+        for (int axis = 0; axis < 2; axis++) {
+            boolean found = false;
+            for (int seed = 1; seed <= 1000000 && !found; seed++) {
+                int[] at = {Made.drawn(seed, 1 + axis), Made.drawn(seed, 3 + axis), Made.drawn(seed, 5 + axis),
+                    Made.drawn(seed, 7 + axis)};
+                for (int way = 0; way < 64 && !found; way++) {
+                    int[] step = {8, way / 16, way / 4 % 4, way % 4};
+                    if (at[step[1]] + at[step[3]] - at[step[2]] == number) {
+                        found = true;
+                        FactFinder x = Made.of(seed, 1, s(0), s(0), s(0), s(0), step);
+                        c.is("seed " + seed + ", axis " + axis, due, x.place(0, 4, axis));
                     }
                 }
             }
+            c.isTrue("there is a seed for " + number, found);
         }
-        c.isTrue("there is a seed for " + number, false);
     }
 
     private static void placesOfOneTooFar() {
