@@ -1,38 +1,27 @@
-import java.io.IOException;
 import java.lang.reflect.Executable;
 import java.lang.reflect.Field;
 import java.lang.reflect.Method;
 import java.lang.reflect.Modifier;
-import java.nio.charset.StandardCharsets;
-import java.nio.file.Files;
-import java.nio.file.Path;
 import java.util.Arrays;
 import java.util.List;
 import java.util.TreeSet;
-import java.util.regex.Matcher;
-import java.util.regex.Pattern;
 
-/** The public face, the rules of LANGUAGE.md that can be looked at, and the room that a run takes. */
+/** The public face, and the room that a run takes. */
 public final class FaceTest {
     private static final List<String> FACE = List.of(
             "change(int,int,int,int,int,int)", "clear()", "count(int)", "draw(int,int)", "fact(int,int,int)",
             "facts(int)", "falls(int)", "holds(int,int,int,int,int,int,int)", "needs(int,int,int)",
             "place(int,int,int)", "ring(int)", "row(int)", "step(int,int,int,int,int)", "told(int,int)");
-    private static final String FORBIDDEN =
-            "\\b(throw|throws|try|catch|synchronized|assert|import|package|yield)\\b|->|::|\"";
 
     private static final Due due = new Due();
 
-    public static void main(String[] args) throws IOException {
+    public static void main(String[] args) {
         publicFace();
         for (Class<?> inside : FactFinder.class.getDeclaredClasses()) {
             classInside(inside);
         }
         due.isTrue("at most twelve classes", FactFinder.class.getDeclaredClasses().length < 12);
         allClasses(FactFinder.class);
-        if (args.length > 0) {
-            source(Files.readString(Path.of(args[0]), StandardCharsets.ISO_8859_1));
-        }
         room();
         due.end();
     }
@@ -92,30 +81,6 @@ public final class FaceTest {
 
     private static void parameters(Executable e) {
         due.isTrue(e + " takes at most seven", e.getParameterCount() <= 7);
-    }
-
-    private static void source(String text) {
-        String code = text.replaceAll("(?s)/\\*.*?\\*/", "").replaceAll("//[^\n]*", "");
-        Matcher forbidden = Pattern.compile(FORBIDDEN).matcher(code);
-        while (forbidden.find()) {
-            due.isTrue("'" + forbidden.group() + "' stands in the class", false);
-        }
-        methodLengths(text);
-    }
-
-    /** A method begins with a line that opens a body at the depth of members, and ends there. */
-    private static void methodLengths(String text) {
-        String[] lines = text.split("\n");
-        int begin = 0;
-        for (int i = 0; i < lines.length; i++) {
-            if (lines[i].matches(" {4}( {4})?\\w[^=;]*\\).*\\{|.{4,8}\\w[^=;]*\\($")) {
-                begin = i;
-            }
-            if (lines[i].matches(" {4}( {4})?}")) {
-                boolean isClass = lines[i].matches(" {4}}") && i > 0 && lines[i - 1].matches(" {8}}");
-                due.isTrue("line " + (i + 1) + " ends a short method", isClass || i - begin <= 60);
-            }
-        }
     }
 
     /** A run of the dearest calls makes nothing but its object, which itself is small. */
