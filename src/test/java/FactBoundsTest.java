@@ -29,6 +29,7 @@ public final class FactBoundsTest {
         factBounds();
         factOrder();
         ratioNumbers();
+        ratioOfLengthOne();
         needsBounds();
         needsAnswers();
         needsOfAllKinds();
@@ -760,6 +761,33 @@ public final class FactBoundsTest {
             tells(x, RATIO, "020314 022314");
             FactFinder y = Made.of(Made.seedOf(7, 0), 2, s(0), s(0), s(0), s(9, 1, 2), s(1, 1, 3));
             tells(y, RATIO, "131414 133414");
+        });
+    }
+
+    /** The least seed with which |23|, of FREE points, is 1 in figure 0. */
+    private static int seedOfOne() {
+        for (int seed = 1; seed <= 1000000; seed++) {
+            long wayX = Made.drawn(seed, 7) - Made.drawn(seed, 5);
+            long wayY = Made.drawn(seed, 8) - Made.drawn(seed, 6);
+            if ((wayX * wayX + wayY * wayY) % Made.P == 1) {
+                return seed;
+            }
+        }
+        throw new IllegalStateException("no seed draws a length of 1");
+    }
+
+    private static void ratioOfLengthOne() {
+        c.test(10, "RATIO, when a length is 1, asked first of all", () -> {
+            holds(Made.of(seedOfOne(), 1, s(0), s(0), s(0), s(0), s(8, 3, 2, 3)), 1, RATIO, 2, 3, 2, 4);
+            holds(Made.of(seedOfOne(), 1, s(0), s(0), s(0), s(0), s(7, 3, 2)), 0, RATIO, 2, 3, 2, 4);
+        });
+        c.test(12, "its NUMBERS, when a length is 1, asked anew after others", () -> {
+            FactFinder x = Made.of(seedOfOne(), 1, s(0), s(0), s(0), s(0), s(8, 3, 2, 3));
+            tells(x, RATIO, "232441 243414");
+            Made.change(x, 4, 1, 2, 3);
+            tells(x, RATIO, "232414 233414");
+            Made.change(x, 4, 8, 3, 2, 3);
+            tells(x, RATIO, "232441 243414");
         });
     }
 
